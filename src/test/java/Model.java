@@ -379,6 +379,22 @@ final class Model {
         return world == null ? 0 : world.time;
     }
 
+    /** How many things the first argument of a call chooses from, or a little more. */
+    int sizeFor(String name) {
+        if (world == null) {
+            return 3;
+        }
+        switch (name) {
+            case "plan": return world.plans.size();
+            case "lying": return world.ground.size();
+            case "bearer": case "placeIn": case "strengthIn": case "bannerIn": case "closedIn":
+            case "swap": case "drop": case "pick": case "strengthen": case "setStep":
+                return world.bearers.size();
+            case "setting": return 6;
+            default: return world.stands.size();
+        }
+    }
+
     private void some() {
         if (world == null) {
             throw new IllegalStateException();

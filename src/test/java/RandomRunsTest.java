@@ -37,7 +37,7 @@ public final class RandomRunsTest {
     public static void main(String[] args) {
         int runs = args.length > 0 ? Integer.parseInt(args[0]) : RUNS;
         for (int run = 0; run < runs; run++) {
-            if (!new RandomRunsTest(run).passes()) {
+            if (!new RandomRunsTest(run).passes() || !new RandomRunsTest(run).parsesAlike()) {
                 System.exit(1);
             }
         }
@@ -71,13 +71,31 @@ public final class RandomRunsTest {
         return fine;
     }
 
+    /** Texts with an error, mostly, and what one sees of them. */
+    private boolean parsesAlike() {
+        boolean fine = true;
+        for (int left = CALLS; fine && left > 60;) {
+            left -= load(random.nextInt(4) == 0 ? text() : spoilt(text()));
+            for (String name : List.of("writeRow", "writePlaces", "undoable", "strengthBits")) {
+                fine = ask(named(name), new Object[0]);
+                left--;
+            }
+        }
+        if (!fine) {
+            history.forEach(System.out::println);
+        }
+        return fine;
+    }
+
     /** Returns how many calls that took. */
     private int load(String text) {
         byte[] bytes = new byte[(text.length() + 19) / 20 * 20];
         for (int i = 0; i < bytes.length; i++) {
             bytes[i] = (byte) (i < text.length() ? text.charAt(i) : ' ');
         }
-        ask(named("load"), new Object[] {0});
+        if (random.nextInt(10) == 0) {
+            ask(named("load"), new Object[] {0});
+        }
         for (int at = 0; at < bytes.length; at += 20) {
             Object[] words = new Object[5];
             for (int w = 0; w < 5; w++) {
@@ -89,11 +107,13 @@ public final class RandomRunsTest {
             }
             ask(named("append"), words);
         }
+        ask(named("buffered"), new Object[0]);
         history.add("text: " + text);
-        ask(named("load"), new Object[] {text.length()});
+        boolean whole = random.nextInt(10) > 0;
+        ask(named("load"), new Object[] {whole ? text.length() : random.nextInt(720) - 5});
         ask(named("parseError"), new Object[0]);
         ask(named("errorPosition"), new Object[0]);
-        return bytes.length / 20 + 4;
+        return bytes.length / 20 + 5;
     }
 
     private Method named(String name) {
@@ -152,12 +172,13 @@ public final class RandomRunsTest {
             case "lyingFrom": return random.nextInt(1200) - 300;
             case "textByte": return random.nextInt(40);
             case "addPlan":
-                return i == 0 ? model.time() + random.nextInt(15) : random.nextInt(6);
+                return i == 0 ? model.time() + random.nextInt(15)
+                        : random.nextInt(1 + model.sizeFor("bearer"));
             case "set": return i == 0 ? random.nextInt(6) : settingValue();
             default: break;
         }
         if (i == 0) {
-            return random.nextInt(name.equals("bearer") ? 13 : 6);
+            return random.nextInt(1 + model.sizeFor(name));
         }
         switch (name) {
             case "strengthen": return random.nextInt(201) - 100;
@@ -183,18 +204,19 @@ public final class RandomRunsTest {
         text.append(random.nextInt(random.nextInt(2) == 0 ? 51 : 6)).append(' ');
         text.append(1 + random.nextInt(random.nextInt(3) == 0 ? 100 : 15)).append(' ');
         text.append(random.nextInt(random.nextInt(4) == 0 ? 10000 : 120));
-        int bearers = random.nextInt(5) == 0 ? random.nextInt(13) : random.nextInt(6);
-        int letters = random.nextInt(4) == 0 ? 26 : 1 + random.nextInt(4);
+        int bearers = random.nextInt(5) == 0 ? random.nextInt(13) : 1 + random.nextInt(5);
+        int letters = random.nextInt(6) == 0 ? 26 : 1 + random.nextInt(4);
+        StringBuilder row = new StringBuilder();
         for (int b = 0; b < bearers; b++) {
-            text.append(';').append("bearer ").append((char) ('a' + random.nextInt(letters)))
-                    .append(' ').append(1 + random.nextInt(random.nextInt(3) == 0 ? 200 : 40))
+            row.append((char) ('a' + random.nextInt(letters)));
+            text.append(';').append("bearer ").append(row.charAt(b)).append(' ').append(1 + random.nextInt(random.nextInt(3) == 0 ? 200 : 40))
                     .append(' ').append(random.nextInt(21));
         }
-        int stands = random.nextInt(5) == 0 ? random.nextInt(7) : random.nextInt(3);
+        int stands = random.nextInt(5) == 0 ? random.nextInt(7) : 1 + random.nextInt(3);
         for (int s = 0; s < stands; s++) {
             text.append(random.nextBoolean() ? ";stand left " : " ; stand right ")
                     .append(random.nextInt(random.nextInt(4) == 0 ? 10000 : 300)).append(' ')
-                    .append(word(letters));
+                    .append(random.nextInt(3) == 0 ? word(letters) : part(row));
         }
         int plans = bearers < 2 ? 0 : random.nextInt(random.nextInt(5) == 0 ? 13 : 4);
         for (int k = 0; k < plans; k++) {
@@ -213,8 +235,21 @@ public final class RandomRunsTest {
         return word.toString();
     }
 
+    /** A word that the row spells somewhere, as seen from the left or from the right. */
+    private String part(StringBuilder row) {
+        StringBuilder part = new StringBuilder(row);
+        if (random.nextBoolean()) {
+            part.reverse();
+        }
+        int from = random.nextInt(part.length() + 1);
+        int length = 1 + random.nextInt(4);
+        String word = part.substring(from, Math.min(part.length(), from + length));
+        return word.isEmpty() ? "z" : word;
+    }
+
     /** The text with a few pieces put in, taken out or put twice. */
     private String spoilt(String text) {
+        String[] lines = {"parade", "bearer", "stand", "plan"};
         String[] pieces = {"", " ", ";", "bearer", "; stand", "plan", "9", "00", "x", "0 ", "A",
             "-", "" + (char) 0, "" + (char) 233, ";bearer a 1 0", ";stand left 0 a", ";plan 1 0",
             "10000", "left", "parade", "; bearer z 201 0", "\n"};
@@ -222,6 +257,14 @@ public final class RandomRunsTest {
         for (int k = random.nextInt(3); k >= 0; k--) {
             int from = random.nextInt(spoilt.length() + 1);
             int to = Math.min(spoilt.length(), from + random.nextInt(4));
+            if (random.nextBoolean()) {
+                from = Math.max(0, spoilt.indexOf(lines[random.nextInt(4)], from));
+                to = from;
+            }
+            if (random.nextInt(3) == 0) {
+                otherNumber(spoilt, from);
+                continue;
+            }
             String piece = pieces[random.nextInt(pieces.length)];
             StringBuilder more = new StringBuilder();
             for (int i = random.nextInt(6) == 0 ? 13 : 1; i > 0; i--) {
@@ -230,5 +273,18 @@ public final class RandomRunsTest {
             spoilt.replace(from, to, more.toString());
         }
         return spoilt.length() > 700 ? spoilt.substring(0, 700) : spoilt.toString();
+    }
+
+    /** Puts another number in place of the first one behind an index. */
+    private void otherNumber(StringBuilder text, int behind) {
+        int from = behind;
+        while (from < text.length() && !Character.isDigit(text.charAt(from))) {
+            from++;
+        }
+        int to = from;
+        while (to < text.length() && Character.isDigit(text.charAt(to))) {
+            to++;
+        }
+        text.replace(from, to, "" + Math.abs(EDGES[random.nextInt(EDGES.length - 1)]) % 100000);
     }
 }
