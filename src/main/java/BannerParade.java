@@ -883,6 +883,9 @@ public final class BannerParade {
         }
 
         void exchangeBanners(int b) {
+            if (b < 0 || b + 1 >= size) {
+                return;
+            }
             int letter = banner[b];
             banner[b] = banner[b + 1];
             banner[b + 1] = letter;
@@ -1042,6 +1045,9 @@ public final class BannerParade {
         }
 
         void removeAt(int index) {
+            if (index < 0 || index >= size) {
+                return;
+            }
             for (int k = index; k + 1 < size; k++) {
                 letter[k] = letter[k + 1];
                 place[k] = place[k + 1];

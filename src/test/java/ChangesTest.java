@@ -21,6 +21,7 @@ public final class ChangesTest {
         set();
         undo();
         undoOfEachChange();
+        undoOfWhatLies();
         refusedIsNoChange();
         saveAndRestore();
         CHECK.end();
@@ -500,6 +501,33 @@ public final class ChangesTest {
             CHECK.is(x.undo(), 3, "undo() of kind " + kind);
             CHECK.is(all(x), before, "undone kind " + kind);
         }
+    }
+
+    private static void undoOfWhatLies() {
+        CHECK.about("promise 62, the banners that lie");
+        BannerParade x = Check.loaded(ROW);
+        x.set(4, 100);
+        x.tick(1);
+        x.strengthen(0, -1);
+        x.drop(0);
+        x.strengthen(2, -1);
+        x.drop(2);
+        x.save(0);
+        String before = all(x);
+        CHECK.is(x.lying(0, 2), 1, "dropped at 1");
+        x.set(4, 1);
+        x.pick(0);
+        x.tick(3);
+        x.drop(0);
+        x.drop(1);
+        CHECK.is(x.lying(1, 2), 4, "dropped at 4");
+        for (int k = 0; k < 5; k++) {
+            x.undo();
+        }
+        CHECK.is(all(x), before, "undone");
+        x.tick(2);
+        x.restore(0);
+        CHECK.is(all(x), before, "restored");
     }
 
     private static void refusedIsNoChange() {

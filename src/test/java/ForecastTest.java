@@ -276,6 +276,11 @@ public final class ForecastTest {
         CHECK.is(y.leastRest(), -1, "dropped at tick 100");
         y.set(0, 300);
         CHECK.is(y.leastRest(), 0, "dropped at tick 101");
+        // bearer 1 rests in tick 1 alone and then loses 1 in each tick
+        y.strengthen(1, -50);
+        CHECK.is(y.leastRest(), 50, "with 100 behind tick 1");
+        y.strengthen(1, -1);
+        CHECK.is(y.leastRest(), -1, "51 would be needed");
         // bearer 0 drops its banner if it comes to have just 20; with REST 4 it has 22 and then 2,
         // 6, 10 and so on; with REST 0 the swap makes the other two drop theirs
         BannerParade z = Check.loaded("parade 10 0 1 0 1 10;bearer a 5 20;bearer b 1 0"

@@ -199,6 +199,10 @@ public final class InputTest {
             HEAD + ";bearer |A 1 1", HEAD + ";bearer a |-1 1", HEAD + ";bearer a 1|\t1",
             HEAD + ";bearer a |00001 1", HEAD + ";bearer a |99999 1", HEAD + "|,", "|Parade",
             HEAD + ";stand left |10000 a", HEAD + ";|abcdefghijklmnop", HEAD + ";|bearera 1 1",
+            "|xarade 1 0 1 0 1 0", HEAD + ";|xearer a 1 1", HEAD + ";|bearet a 1 1",
+            HEAD + ";stand |xeft 1 a", HEAD + ";|xlan 1 0", HEAD + "|:", HEAD + "|/",
+            HEAD + ";bearer |` 1 1", HEAD + ";bearer |{ 1 1", HEAD + ";bearer a |: 1",
+            HEAD + ";bearer a |/ 1",
         };
         for (String text : marked) {
             error(text, 1);
@@ -255,6 +259,16 @@ public final class InputTest {
         Check.fill(y, "parade 1 0 1 0 1 0;bearer a 123 4");
         CHECK.fails(Check.ARGUMENT, "load cuts a token", () -> y.load(23));
         CHECK.is(y.errorPosition(), 19, "the cut token");
+        BannerParade z = new BannerParade();
+        Check.fill(z, HEAD + ";bearer a 123 19");
+        CHECK.is(z.load(HEAD.length() + 15), 1, "load cuts a number");
+        CHECK.is(z.bearer(0, 3), 1, "the number that is left");
+        Check.fill(z, HEAD + ";stand left 0 abcdef");
+        CHECK.is(z.load(HEAD.length() + 17), 0, "load cuts a word");
+        CHECK.is(z.stand(0, 2), 3, "the word that is left");
+        Check.fill(z, "   ");
+        CHECK.fails(Check.ARGUMENT, "load(0)", () -> z.load(0));
+        CHECK.is(z.errorPosition(), 0, "load(0) of blanks");
     }
 
     private static void parseErrorAndPosition() {
