@@ -789,7 +789,7 @@ public final class BannerParade {
         return set;
     }
 
-    /** LANGUAGE.md leaves no library call for this; a value is 0 or from 2^-60 to 2^60. */
+    /** LANGUAGE.md leaves no library call for this; a share is 0 or from 1/23 to 1. */
     private static int floatBits(float value) {
         if (value <= 0f) {
             return 0;
@@ -800,14 +800,10 @@ public final class BannerParade {
             scaled = scaled * 2f;
             exponent--;
         }
-        for (int k = 0; k < 60 && scaled >= 2f; k++) {
-            scaled = scaled / 2f;
-            exponent++;
-        }
         return (exponent << 23) + (int) ((scaled - 1f) * 8388608f);
     }
 
-    /** As floatBits, for a double. */
+    /** As floatBits, for a mean, which is 0 or from 1/12 to 100. */
     private static long doubleBits(double value) {
         if (value <= 0.0) {
             return 0L;
