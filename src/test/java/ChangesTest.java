@@ -442,33 +442,6 @@ public final class ChangesTest {
         CHECK.is(x.undoable(), 4, "changes by which nothing is different");
     }
 
-    private static String all(BannerParade x) {
-        StringBuilder text = new StringBuilder();
-        for (int what = 0; what <= 16; what++) {
-            text.append(x.count(what)).append(' ');
-        }
-        for (int b = 0; b < x.count(0); b++) {
-            for (int what = 0; what <= 12; what++) {
-                text.append(x.bearer(b, what)).append(' ');
-            }
-        }
-        for (int s = 0; s < x.count(1); s++) {
-            for (int what = 0; what <= 8; what++) {
-                text.append(x.stand(s, what)).append(' ');
-            }
-        }
-        for (int k = 0; k < x.count(2); k++) {
-            text.append(x.plan(k, 0)).append(x.plan(k, 1)).append(x.plan(k, 2)).append(' ');
-        }
-        for (int k = 0; k < x.count(5); k++) {
-            text.append(x.lying(k, 0)).append(x.lying(k, 1)).append(x.lying(k, 2)).append(' ');
-        }
-        for (int what = 0; what < 6; what++) {
-            text.append(x.setting(what)).append(' ');
-        }
-        return text.toString();
-    }
-
     private static BannerParade readyForAll() {
         BannerParade x = Check.loaded(ROW + ";stand right 5 a;plan 2 0;plan 3 1");
         x.drop(2);
@@ -495,11 +468,11 @@ public final class ChangesTest {
         CHECK.about("promise 62, all of the state");
         for (int kind = 0; kind <= 8; kind++) {
             BannerParade x = readyForAll();
-            String before = all(x);
+            String before = Whole.state(x);
             change(x, kind);
-            CHECK.is(all(x).equals(before), false, "a change by kind " + kind);
+            CHECK.is(Whole.state(x).equals(before), false, "a change by kind " + kind);
             CHECK.is(x.undo(), 3, "undo() of kind " + kind);
-            CHECK.is(all(x), before, "undone kind " + kind);
+            CHECK.is(Whole.state(x), before, "undone kind " + kind);
         }
     }
 
@@ -513,7 +486,7 @@ public final class ChangesTest {
         x.strengthen(2, -1);
         x.drop(2);
         x.save(0);
-        String before = all(x);
+        String before = Whole.state(x);
         CHECK.is(x.lying(0, 2), 1, "dropped at 1");
         x.set(4, 1);
         x.pick(0);
@@ -524,16 +497,16 @@ public final class ChangesTest {
         for (int k = 0; k < 5; k++) {
             x.undo();
         }
-        CHECK.is(all(x), before, "undone");
+        CHECK.is(Whole.state(x), before, "undone");
         x.tick(2);
         x.restore(0);
-        CHECK.is(all(x), before, "restored");
+        CHECK.is(Whole.state(x), before, "restored");
     }
 
     private static void refusedIsNoChange() {
         CHECK.about("a call that throws changes nothing");
         BannerParade x = readyForAll();
-        String before = all(x);
+        String before = Whole.state(x);
         CHECK.fails(Check.ARGUMENT, "tick", () -> x.tick(101));
         CHECK.fails(Check.ARGUMENT, "swap", () -> x.swap(2));
         CHECK.fails(Check.ARGUMENT, "drop", () -> x.drop(1));
@@ -545,7 +518,7 @@ public final class ChangesTest {
         CHECK.fails(Check.ARGUMENT, "set", () -> x.set(0, 0));
         CHECK.fails(Check.INDEX, "save", () -> x.save(2));
         CHECK.fails(Check.STATE, "restore", () -> x.restore(1));
-        CHECK.is(all(x), before, "all of the state");
+        CHECK.is(Whole.state(x), before, "all of the state");
         CHECK.is(x.undoable(), 3, "undoable()");
     }
 
@@ -559,27 +532,27 @@ public final class ChangesTest {
         BannerParade x = readyForAll();
         CHECK.is(x.save(0), 0, "save(0)");
         CHECK.is(x.undoable(), 3, "save is no change");
-        String first = all(x);
+        String first = Whole.state(x);
         for (int kind : new int[] {8, 7, 6, 5, 3, 4, 1, 0}) {
             change(x, kind);
         }
         CHECK.is(x.save(1), 7, "save(1)");
-        String second = all(x);
+        String second = Whole.state(x);
         CHECK.fails(Check.INDEX, "save(2)", () -> x.save(2));
         CHECK.fails(Check.INDEX, "save(-1)", () -> x.save(-1));
         CHECK.fails(Check.INDEX, "restore(2)", () -> x.restore(2));
         CHECK.fails(Check.INDEX, "restore(-1)", () -> x.restore(-1));
         CHECK.is(x.undoable(), 8, "undoable() stays");
         CHECK.is(x.restore(0), 0, "restore(0)");
-        CHECK.is(all(x), first, "the first state");
+        CHECK.is(Whole.state(x), first, "the first state");
         CHECK.is(x.undoable(), 0, "nothing can be undone");
         CHECK.fails(Check.STATE, "undo()", x::undo);
         x.tick(1);
         CHECK.is(x.undoable(), 1, "undoable() behind a change");
         CHECK.is(x.restore(1), 7, "restore(1)");
-        CHECK.is(all(x), second, "the second state");
+        CHECK.is(Whole.state(x), second, "the second state");
         CHECK.is(x.restore(0), 0, "it stays saved");
-        CHECK.is(all(x), first, "the first state again");
+        CHECK.is(Whole.state(x), first, "the first state again");
         x.tick(2);
         CHECK.is(x.save(0), 2, "save(0) in place of what was saved");
         x.restore(1);

@@ -1,3 +1,4 @@
+import java.util.function.Function;
 import java.util.function.Supplier;
 
 /** Counts and prints the answers that are not as due. */
@@ -36,6 +37,21 @@ final class Check {
         }
         wrong++;
         System.out.println(about + ": " + what + " " + got + ", due is " + kind.getName());
+    }
+
+    /** The call is refused, and behind it all is as in a twin that was not asked. */
+    void refuses(Class<?> kind, String what, Supplier<BannerParade> made,
+            Function<BannerParade, Object> call) {
+        BannerParade asked = made.get();
+        fails(kind, what, () -> call.apply(asked));
+        is(Whole.used(asked), Whole.used(made.get()), "all that there is behind " + what);
+    }
+
+    /** The call is answered, and behind it all is as in a twin that was not asked. */
+    void keepsAll(String what, Supplier<BannerParade> made, Function<BannerParade, Object> call) {
+        BannerParade asked = made.get();
+        call.apply(asked);
+        is(Whole.used(asked), Whole.used(made.get()), "all that there is behind " + what);
     }
 
     void end() {

@@ -295,7 +295,7 @@ public final class ForecastTest {
     private static void nothingChanges() {
         CHECK.about("promises 37 to 48, nothing is changed");
         BannerParade x = Check.loaded(TIRE + ";bearer b 200 1;stand left 18 a;plan 9 0");
-        String before = all(x);
+        String before = Whole.state(x);
         x.readsIn(0);
         x.passedIn(0);
         x.placeIn(0, 300);
@@ -308,27 +308,8 @@ public final class ForecastTest {
         x.bestSwap(0);
         x.closedIn(1);
         x.leastRest();
-        CHECK.is(all(x), before, "all that there is");
+        CHECK.is(Whole.state(x), before, "all that there is");
         CHECK.is(x.undoable(), 0, "undoable()");
-    }
-
-    private static String all(BannerParade x) {
-        StringBuilder text = new StringBuilder();
-        for (int what = 0; what <= 16; what++) {
-            text.append(x.count(what)).append(' ');
-        }
-        for (int b = 0; b < x.count(0); b++) {
-            for (int what = 0; what <= 12; what++) {
-                text.append(x.bearer(b, what)).append(' ');
-            }
-        }
-        for (int what = 0; what <= 8; what++) {
-            text.append(x.stand(0, what)).append(' ');
-        }
-        for (int what = 0; what <= 5; what++) {
-            text.append(x.setting(what)).append(' ');
-        }
-        return text.append(x.plan(0, 2)).toString();
     }
 
     private static void beyondTheGreatestTime() {

@@ -10,6 +10,7 @@ import java.util.Random;
 public final class RandomRunsTest {
     private static final int RUNS = 1000;
     private static final int CALLS = 512;
+    private static final int LOAD_CALLS = 40;
     private static final int[] EDGES = {-1, 0, 1, 2, 5, 6, 8, 11, 12, 13, 16, 17, 26, 27, 50, 51,
         99, 100, 101, 200, 201, 300, 301, 700, 701, 999, 1000, 5000, 5001, 9999, 10000,
         Integer.MAX_VALUE, Integer.MIN_VALUE};
@@ -51,7 +52,7 @@ public final class RandomRunsTest {
         }
         boolean fine = true;
         while (fine && left > 0) {
-            if (random.nextInt(150) == 0) {
+            if (left > LOAD_CALLS && random.nextInt(150) == 0) {
                 String text = random.nextInt(3) == 0 ? text() : spoilt(text());
                 left -= load(text);
                 fine = history.isEmpty() || !history.get(history.size() - 1).startsWith("WRONG");
@@ -74,7 +75,7 @@ public final class RandomRunsTest {
     /** Texts with an error, mostly, and what one sees of them. */
     private boolean parsesAlike() {
         boolean fine = true;
-        for (int left = CALLS; fine && left > 60;) {
+        for (int left = CALLS; fine && left > LOAD_CALLS + 4;) {
             left -= load(random.nextInt(4) == 0 ? text() : spoilt(text()));
             for (String name : List.of("writeRow", "writePlaces", "undoable", "strengthBits")) {
                 fine = ask(named(name), new Object[0]);
